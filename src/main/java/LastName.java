@@ -510,17 +510,6 @@ public final class LastName {
             return NONE;
         }
 
-        boolean hangs(int name) {
-            for (int gate = 0; gate < MOST_GATES; gate++) {
-                for (int place = 0; place < sizes[gate]; place++) {
-                    if (heaps[gate][place] == name) {
-                        return true;
-                    }
-                }
-            }
-            return false;
-        }
-
         /** OUT: the NAME that he leaves. */
         int leave(int who, int gate) {
             int name = nameOf(who);
@@ -1446,12 +1435,14 @@ public final class LastName {
         }
 
         private void followGoing(int line, int who, int gate) {
-            boolean in = town.nameOf(who) == NONE;
-            if (!isLost(line) && in != (world.book.at(line, LINE_IN) == 1) || !goings.canBe(town, who, gate)) {
+            if (!mayBeOf(line, who) || !goings.canBe(town, who, gate)) {
                 return;
             }
-            if (!in) {
-                followOut(line, who, gate);
+            if (town.nameOf(who) != NONE) {
+                long before = town.packed();
+                town.leave(who, gate);
+                follow(line + 1);
+                town.unpack(before);
             } else if (world.lot[gate]) {
                 int size = town.sizeOf(gate);
                 for (int place = 0; place < size; place++) {
@@ -1462,17 +1453,16 @@ public final class LastName {
             }
         }
 
-        private void followOut(int line, int who, int gate) {
-            if (isSo(line, town.nameOf(who))) {
-                long before = town.packed();
-                town.leave(who, gate);
-                follow(line + 1);
-                town.unpack(before);
-            }
+        /** Whether he is where the line has him, OUT under its NAME; asked first, as laws are dear. */
+        private boolean mayBeOf(int line, int who) {
+            int name = town.nameOf(who);
+            boolean in = world.book.at(line, LINE_IN) == 1;
+            return isLost(line) || (in ? name == NONE : name == world.book.at(line, LINE_NAME));
         }
 
         private void followIn(int line, int who, int gate, int place) {
-            if (isSo(line, town.nameAt(gate, place))) {
+            int name = town.nameAt(gate, place);
+            if (isLost(line) || name == world.book.at(line, LINE_NAME)) {
                 long before = town.packed();
                 town.enter(who, gate, place);
                 follow(line + 1);
@@ -1480,23 +1470,23 @@ public final class LastName {
             }
         }
 
-        private boolean isSo(int line, int name) {
-            return isLost(line) || world.book.at(line, LINE_NAME) == name;
-        }
-
         private void tellEnd() {
             count++;
             for (int who = 0; who < world.people; who++) {
                 int name = town.nameOf(who);
                 parts[who][name + 1]++;
-                if (name != NONE) {
-                    places[name] |= 1 << who;
+                tellPlace(name, 1 << who);
+            }
+            for (int gate = 0; gate < world.gates; gate++) {
+                for (int place = 0; place < town.sizeOf(gate); place++) {
+                    tellPlace(town.nameAt(gate, place), ON_HEAP);
                 }
             }
-            for (int name = 0; name < MOST_NAMES; name++) {
-                if (town.hangs(name)) {
-                    places[name] |= ON_HEAP;
-                }
+        }
+
+        private void tellPlace(int name, int bit) {
+            if (isName(name)) {
+                places[name] |= bit;
             }
         }
 

@@ -119,7 +119,7 @@ public final class ModelTest {
                 break;
             }
             default: {
-                String text = text();
+                String text = up(6) == 0 ? babble() : text();
                 feed(text);
                 String call = "text of " + text;
                 due(call, x.text(), m.text());
@@ -143,6 +143,26 @@ public final class ModelTest {
         due("end", x.end(all.length), m.end(all.length));
     }
 
+    /** A CLAUSE's beginning and then TOKENS, or bytes that are none, in any order. */
+    private String babble() {
+        String[] begins = {"", "take ", "fee ", "bars ", "bars who=", "go ", "go 1 by", "fee 1;", "fee (1+"};
+        StringBuilder b = new StringBuilder(begins[up(begins.length)]);
+        for (int n = up(12); n > 0; n--) {
+            int kind = up(12);
+            if (kind == 0) {
+                b.append((char) up(256));
+            } else if (kind < 4) {
+                b.append(GOING_NAMES[up(GOING_NAMES.length)]);
+            } else if (kind < 6) {
+                b.append(up(12));
+            } else {
+                b.append(SPOILERS[up(SPOILERS.length)]);
+            }
+            b.append(up(3) == 0 ? "" : up(5) == 0 ? "\n" : " ");
+        }
+        return b.toString();
+    }
+
     private String text() {
         StringBuilder b = new StringBuilder();
         int clauses = up(8) == 0 ? 16 + up(8) : up(6);
@@ -153,6 +173,8 @@ public final class ModelTest {
                 b.append("take ").append(sum(TAKE_NAMES, 3)).append(';');
             } else if (kind == 1) {
                 b.append("fee ").append(sum(GOING_NAMES, 3)).append(';');
+            } else if (kind == 4 && !brief) {
+                b.append("bars in=").append(up(2)).append(" and ").append(up(2) == 0 ? "name=" : "size<").append(up(4)).append(';');
             } else if (kind < 4 && !brief) {
                 b.append("bars ").append(either()).append(up(9) == 0 ? " ;" : " and hour<").append(up(3)).append(";");
             } else {

@@ -120,6 +120,7 @@ public final class PromiseTest {
         c.due("feed beyond 300", x.feed(0, 0, 0, 0, 0), -1);
         c.due("tape", x.about(8), 300);
         c.due("end 301", x.end(301), -1);
+        c.due("end 300", x.end(300), 300);
         c.due("end -1", x.end(-1), -1);
         c.due("end 281", x.end(281), 281);
         c.due("feed at 281", x.feed(0, 0, 0, 0, 0), -1);
@@ -151,7 +152,10 @@ public final class PromiseTest {
         c.due("its tape", x.about(8), 0);
         c.due("its fault", x.fault(0), 1);
         c.due("texts", x.about(3), 1);
+        Check.read(x, "go 0 by 0;take 1;fee 1;go 0 by 0;go");
         c.due("a second", Check.read(x, "fee 1;"), 1);
+        c.due("its place", x.fault(1), -1);
+        c.due("nothing of the faulty one is left", x.gone(1), 0);
         c.due("its tape", x.about(8), 0);
         c.due("a third", Check.read(x, "fee 2;"), 2);
         c.due("a fourth", Check.read(x, " \n"), 3);
@@ -177,6 +181,15 @@ public final class PromiseTest {
         faulty("Fee 1;", 1, 0);
         faulty("fee Who;", 1, 4);
         faulty("feewho;", 1, 0);
+        faulty("feea 1;", 1, 0);
+        faulty("feez 1;", 1, 0);
+        faulty("feeA 1;", 1, 0);
+        faulty("feeZ 1;", 1, 0);
+        faulty("fee@1;", 1, 3);
+        faulty("fee[1;", 1, 3);
+        faulty("fee`1;", 1, 3);
+        faulty("fee{1;", 1, 3);
+        faulty("fee 1:;", 1, 5);
         faulty("fee 12who;", 1, 6);
         faulty("fee who who;", 1, 8);
         faulty("fee 1 2;", 1, 6);
@@ -328,6 +341,8 @@ public final class PromiseTest {
         takes("-place", 5, 3);
         takes("name", 5, 4);
         takes("0", 5, 2);
+        takes("name-100", 5, 4);
+        takes("own-1", 4, 4);
         takes("own", 4, 4);
         takes("own", 0, 0);
         takes("own", 5, 2);
@@ -585,6 +600,28 @@ public final class PromiseTest {
         c.due("what 2", x.chance(0, 0, 2), -1);
         c.due("what -1", x.chance(0, 0, -1), -1);
         sixDraws();
+        leftOutByLot();
+    }
+
+    private void leftOutByLot() {
+        LastName x = town(3, 1, 1);
+        x.gate(true);
+        x.row(3, 1);
+        c.due("nothing hangs there", x.chance(3, -1, 0), 1);
+        x.row(-1, 0);
+        for (int who : new int[] {0, 1, 2, 3}) {
+            x.row(who, 1);
+        }
+        x.row(3, 0);
+        ruled(x, "bars in=0 and name=2 and gate=0;");
+        c.due("he goes out again but with 2", x.chance(3, -1, 0), 2);
+        c.due("of", x.chance(3, -1, 1), 3);
+        c.due("he has 2", x.chance(3, 2, 0), 1);
+        c.due("of", x.chance(3, 2, 1), 3);
+        c.due("he has 1", x.chance(3, 1, 0), 0);
+        ruled(x, "bars who=3 and gate=1;");
+        c.due("who is barred doesn't draw", x.chance(3, -1, 0), 1);
+        c.due("of", x.chance(3, -1, 1), 1);
     }
 
     /** Eight names, six draws: 1 of 8, and what a draw ahead changes. */
@@ -696,6 +733,8 @@ public final class PromiseTest {
         LastName x = town(3, 1, 2);
         c.due("ask of no book", x.ask(0), 0);
         c.due("the greatest part", x.ask(1), 1);
+        c.due("ask 2 with ways", x.ask(2), -1);
+        c.due("ask -1 with ways", x.ask(-1), -1);
         c.due("may 0 now", x.may(0), 1);
         c.due("may 3: no name", x.may(3), 0);
         x.line(false, 1, 0);
@@ -743,6 +782,9 @@ public final class PromiseTest {
         LastName x = town(3, 1, 2);
         row(x, 0, 0, 0, 15);
         row(x, 2, 9, -9, 15);
+        row(x, 2, 0, 0, 0);
+        c.due("set 16, where it is so at once", x.fewest(2, 0, 0, 16, -1), -1);
+        c.due("set -1, where it is so at once", x.fewest(2, 0, 0, -1, -1), -1);
         row(x, 0, 0, 1, 15, 0, 10, 0);
         row(x, 0, 3, 2, 15, 20, 30);
         row(x, 0, 3, 2, 8 + 4, 20, 30);
@@ -926,8 +968,11 @@ public final class PromiseTest {
         for (int n : new int[] {0, -1, 101, Integer.MAX_VALUE, Integer.MIN_VALUE}) {
             c.due("days " + n, x.days(n), -1);
         }
+        c.due("one", x.days(1), 1);
+        c.due("and 99", x.days(99), 99);
+        x.seed(9999);
         c.due("a hundred", x.days(100), 100);
-        c.due("they count", x.of(0, 2), 100);
+        c.due("they count", x.of(0, 2), 200);
         // each day two draws, each second day the draw of the one name besides
         int due = 109994;
         for (int i = 0; i < 250; i++) {
@@ -972,10 +1017,12 @@ public final class PromiseTest {
         x.seed(1);
         Check.read(x, "fee 4;");
         x.by(1);
-        x.deed(1, 10);
         x.row(-1, 0);
+        x.row(1, 1);
         x.line(false, 0, -1);
+        x.line(true, 1, 1);
         x.go(2, 0);
+        x.deed(0, 500);
         x.go(1, 1);
         Check.read(x, "fee");
         x.feed(1, 2, 3, 4, 5);
@@ -989,6 +1036,9 @@ public final class PromiseTest {
             c.due("heap", x.heap(0, 0), 0);
             c.due("heap", x.heap(1, -1), 0);
             c.due("paid", x.of(0, 1), 3);
+            c.due("done", x.of(2, 2), 0);
+            c.due("owes", x.owes(0), 0);
+            c.due("owes", x.owes(1), 10);
             c.due("0 is out", x.of(0, 0), -1);
             c.due("2 is out", x.of(2, 0), -1);
             c.due("row", x.judge(), -1);
