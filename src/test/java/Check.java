@@ -1,15 +1,22 @@
 import java.nio.charset.StandardCharsets;
+import java.util.List;
 
 /** What the tests share: answers that are due, and TEXTS that are fed as words. */
 final class Check {
+    private String test = "";
     private int asked = 0;
     private int wrong = 0;
+
+    /** The name under which wrong answers are told from here on. */
+    void begin(String name) {
+        test = name + ": ";
+    }
 
     void due(String call, long got, long want) {
         asked++;
         if (got != want) {
             wrong++;
-            System.out.println(call + " answered " + got + ", due is " + want);
+            System.out.println(test + call + " answered " + got + ", due is " + want);
         }
     }
 
@@ -17,9 +24,28 @@ final class Check {
         due(call, got ? 1 : 0, want ? 1 : 0);
     }
 
+    /** Two views of objects that are to be alike; the first row in which they aren't is told. */
+    void same(String call, List<String> got, List<String> want) {
+        asked++;
+        if (!got.equals(want)) {
+            wrong++;
+            int i = 0;
+            while (i < got.size() && i < want.size() && got.get(i).equals(want.get(i))) {
+                i++;
+            }
+            String had = i < got.size() ? got.get(i) : "nothing";
+            String due = i < want.size() ? want.get(i) : "nothing";
+            System.out.println(test + call + ": " + had + ", due is " + due);
+        }
+    }
+
+    int wrong() {
+        return wrong;
+    }
+
     /** Ends the test with exit code 1 if an answer was wrong. */
-    void close(String test) {
-        System.out.println(test + ": " + asked + " answers, " + wrong + " wrong");
+    void close(String name) {
+        System.out.println(name + ": " + asked + " answers, " + wrong + " wrong");
         if (wrong != 0 || asked == 0) {
             System.exit(1);
         }
