@@ -21,6 +21,15 @@ public final class BookEdgesTest extends Edges {
         return x;
     }
 
+    /** All of 8 have left their NAMES at one of three GATES, the lowest first. */
+    private static LastName allOut(int gate, int lots) {
+        LastName x = town(8, 0, 3 - lots, lots);
+        for (int i = 0; i < 8; i++) {
+            x.go(i, gate);
+        }
+        return x;
+    }
+
     void promise21_theSixthIsTheLast() {
         LastName x = town(2, 0, 1, 0);
         for (int i = 1; i <= 6; i++) {
@@ -150,10 +159,7 @@ public final class BookEdgesTest extends Edges {
         all.line(true, -1, 0);
         c.due("8 out by 3", all.ways(), 24);
         for (int lots = 0; lots < 2; lots++) {
-            LastName x = town(8, 0, 1 - lots, lots);
-            for (int i = 0; i < 8; i++) {
-                x.go(i, 0);
-            }
+            LastName x = allOut(0, 3 * lots);
             x.line(false, -1, 0);
             c.due("8 in, by lot with each name", x.ways(), lots == 0 ? 8 : 64);
         }
@@ -196,6 +202,20 @@ public final class BookEdgesTest extends Edges {
         c.due("in all orders", x.ways(), 24);
         x.line(true, 0, 0);
         c.due("a fifth", x.ways(), 0);
+    }
+
+    void promise22_allEightNamesAtEachGate() {
+        for (int gate = 0; gate < 3; gate++) {
+            for (int lots = 0; lots <= 3; lots += 3) {
+                LastName x = allOut(gate, lots);
+                x.line(true, -1, 0);
+                c.due("one of eight comes in", x.ways(), lots == 0 ? 8 : 64);
+                c.due("with the latest", x.may(7), lots == 0 ? 255 : 255 + 256);
+                c.due("with the oldest", x.may(0), lots == 0 ? 256 : 255 + 256);
+                x.line(true, lots == 0 ? 6 : 7, gate);
+                c.due("then one of seven", x.ways(), 56 * (lots == 0 ? 1 : 7));
+            }
+        }
     }
 
     void promise22_whatIsBarredIsNoWay() {

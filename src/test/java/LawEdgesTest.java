@@ -78,6 +78,7 @@ public final class LawEdgesTest extends Edges {
             takes("take own-1;", who, who);
             takes("take -own;", who, who == 2 ? 0 : 2);
             takes("take 0-(own-1)*(own-1);", who, who);
+            takes("take 0-own*own;", who, who == 2 ? 0 : 2);
         }
         takes("take own;", 5, 2);
         takes("take own*100-place;", 5, 3);
@@ -266,6 +267,27 @@ public final class LawEdgesTest extends Edges {
                 so(left + signs[i] + "5", due[i][left - 4]);
                 so("hour" + signs[i] + (10 - left), due[i][left - 4]);
                 so("0-1" + signs[i] + (4 - left), due[i][left - 4]);
+            }
+        }
+    }
+
+    /** What a comparison answers is as good under not, and, or as by itself. */
+    void promise11_eachComparisonUnderOthers() {
+        String[] signs = {"<", "<=", ">", ">=", "=", "#"};
+        int[] so = {4, 5, 6, 5, 5, 4};
+        int[] not = {5, 6, 5, 4, 6, 5};
+        for (int i = 0; i < signs.length; i++) {
+            String yes = so[i] + signs[i] + "5";
+            String no = not[i] + signs[i] + "5";
+            so("not " + yes, false);
+            so("not " + no, true);
+            so("not not " + yes, true);
+            so("not not " + no, false);
+            for (int j = 0; j < signs.length; j++) {
+                so(yes + " and " + so[j] + signs[j] + "5", true);
+                so(yes + " and " + not[j] + signs[j] + "5", false);
+                so(no + " or " + so[j] + signs[j] + "5", true);
+                so(no + " or " + not[j] + signs[j] + "5", false);
             }
         }
     }

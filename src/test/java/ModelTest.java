@@ -2,8 +2,9 @@ import java.util.Random;
 
 /** Long random runs, each call's answer held against the Model's. The seeds are fixed. */
 public final class ModelTest {
-    private static final int RUNS = 600;
-    private static final int CALLS = 200;
+    private static final int RUNS = 800;
+    /** What an object answers behind 512 calls is free; one turn makes some hundred at most. */
+    private static final int CALLS = 400;
     /** The Model is slow: so many dear calls a run. */
     private static final int HEAVY = 40;
     private static final String[] TAKE_NAMES = {"place", "name", "own", "who", "gate", "size", "hour"};
@@ -17,6 +18,7 @@ public final class ModelTest {
     private final Check check;
     private final int run;
     private int heavy = 0;
+    private int made = 0;
 
     private ModelTest(int run, Check check) {
         this.run = run;
@@ -31,7 +33,7 @@ public final class ModelTest {
         for (int run = from; run < to; run++) {
             ModelTest t = new ModelTest(run, check);
             t.begin();
-            for (int i = 0; i < CALLS; i++) {
+            while (t.made < CALLS) {
                 t.call();
             }
         }
@@ -60,6 +62,7 @@ public final class ModelTest {
     }
 
     private void due(String call, long got, long want) {
+        made++;
         check.due("run " + run + ": " + call, got, want);
     }
 

@@ -329,6 +329,21 @@ public final class RowEdgesTest extends Edges {
         }
     }
 
+    void promise20_allEightNamesAtEachGate() {
+        for (int gate = 0; gate < 3; gate++) {
+            LastName x = town(8, 0, 0, 3);
+            for (int i = 0; i < 8; i++) {
+                x.go(i, gate);
+            }
+            x.row(0, gate);
+            x.row(1, gate);
+            c.due("the latest", x.chance(1, 7, 0), 1);
+            c.due("of", x.chance(1, 7, 1), 8);
+            c.due("the oldest", x.chance(1, 0, 1), 8);
+            c.due("outside", x.chance(2, -1, 0), 1);
+        }
+    }
+
     void promise20_inLowestTerms() {
         LastName x = allDraw(0);
         ruled(x, "bars in=0 and who<2 and name>2;");

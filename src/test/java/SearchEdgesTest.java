@@ -120,6 +120,25 @@ public final class SearchEdgesTest extends Edges {
         goings(nobody, 2, 0, 0, 7);
     }
 
+    void promise25_allEightNamesAtEachGate() {
+        for (int gate = 0; gate < 3; gate++) {
+            LastName x = allOut(gate);
+            goings(x, 0, 5, 7, 255, 50 + gate);
+            goings(x, 0, 5, 6, 255, gate, 50 + gate);
+            goings(x, 0, 7, 5, 255, gate, 10 + gate, 70 + gate);
+        }
+    }
+
+    /** All of 8 have left their NAMES at one of three GATES, the lowest first; each owes as much less as it hangs deeper. */
+    private static LastName allOut(int gate) {
+        LastName x = town(8, 0, 3, 0);
+        for (int i = 0; i < 8; i++) {
+            x.deed(i, i + 1);
+            x.go(i, gate);
+        }
+        return x;
+    }
+
     void promise25_withoutGatesOrByLotAloneNever() {
         c.due("without gates", town(2, 0, 0, 0).fewest(0, 0, 1, 3, -1), -1);
         c.due("by lot", town(2, 0, 0, 3).fewest(0, 0, 1, 3, -1), -1);
@@ -345,6 +364,15 @@ public final class SearchEdgesTest extends Edges {
         x.go(4, 0);
         x.go(4, 1);
         c.due("two less to do", x.thief(4, 3), 20);
+    }
+
+    void promise28_allEightNamesAtEachGate() {
+        int[] due = {-1, 8, 8, 7, 7};
+        for (int gate = 0; gate < 3; gate++) {
+            for (int n = 0; n <= 4; n++) {
+                c.due("n " + n, allOut(gate).thief(3, n), due[n]);
+            }
+        }
     }
 
     void promise28_noneForOthers() {

@@ -453,6 +453,9 @@ public final class TextEdgesTest extends Edges {
         faulty("bars not 1=" + eight + ";", 3, 18);
         faulty("bars not " + eight + "=1;", 3, 16);
         reads("bars not 1=1 and " + eight + "=1;");
+        faulty("bars 1=1 and (" + eight + ")=1;", 3, 21);
+        faulty("bars 1=1 or (" + eight + ")=1;", 3, 20);
+        faulty("bars 1=1 and 1=(" + eight + ");", 3, 23);
         reads("bars not 1=1 or " + eight + "=1;");
         reads("bars " + "not ".repeat(8) + "1=1 and " + "not ".repeat(8) + "1=1 or " + "not ".repeat(8) + "1=1;");
     }
