@@ -197,6 +197,22 @@ public final class TextEdgesTest extends Edges {
         c.due("148 ones", x.of(0, 1), 148);
     }
 
+    /** Each has as much to reckon as can be; faulty ones between take nothing of it away. */
+    void promise7_eachOfFourCanHave300Bytes() {
+        LastName x = town(1, 0, 1, 0);
+        for (int i = 0; i < 4; i++) {
+            c.due("a faulty one", Check.read(x, "fee 1" + "+1".repeat(147) + "!"), -1);
+            c.due("its place", x.fault(1), 299);
+            c.due("text", Check.read(x, "fee " + i + "+1".repeat(147) + ";"), i);
+        }
+        for (int i = 3; i >= 0; i--) {
+            int paid = x.of(0, 1);
+            x.by(i);
+            x.go(0, 0);
+            c.due("its fee", x.of(0, 1) - paid, 147 + i);
+        }
+    }
+
     void promise7_blanksAre32And10Alone() {
         for (int sign : new int[] {32, 10}) {
             String b = "" + (char) sign;
