@@ -628,8 +628,12 @@ public final class LastName {
             texts = other.texts;
             ruling = other.ruling;
             x = other.x;
-            System.arraycopy(other.born, 0, born, 0, MOST_PEOPLE);
-            System.arraycopy(other.lot, 0, lot, 0, MOST_GATES);
+            for (int who = 0; who < MOST_PEOPLE; who++) {
+                born[who] = other.born[who];
+            }
+            for (int gate = 0; gate < MOST_GATES; gate++) {
+                lot[gate] = other.lot[gate];
+            }
             System.arraycopy(other.paid, 0, paid, 0, MOST_PEOPLE);
             System.arraycopy(other.done, 0, done, 0, MOST_PEOPLE);
             town.copyFrom(other.town);
