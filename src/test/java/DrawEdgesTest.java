@@ -68,6 +68,23 @@ public final class DrawEdgesTest extends Edges {
         c.due("without a third draw", z.about(10), next(next(5)));
     }
 
+    void promise30_theTextRulesThem() {
+        LastName x = ruled(town(2, 0, 1, 0), "fee 5+in;bars who=0;");
+        c.due("5 mod 2: 1 goes out", x.days(1), 1);
+        c.due("he paid", x.of(1, 1), 5);
+        c.due("10007 mod 2: 1 comes in", x.days(1), 1);
+        c.due("he paid", x.of(1, 1), 11);
+        x.seed(1);
+        c.due("16 mod 2: 0 can't", x.days(1), 0);
+        c.due("he paid nothing", x.of(0, 1), 0);
+        LastName y = ruled(town(3, 0, 1, 0), "take 0-place;bars who<2 and in=1;");
+        for (int who = 0; who < 3; who++) {
+            y.go(who, 0);
+        }
+        c.due("5 mod 3: 2 comes in", y.days(1), 1);
+        c.due("with the oldest", y.of(2, 0), 0);
+    }
+
     void promise30_byLotAThirdDraw() {
         LastName x = town(1, 0, 0, 1);
         c.due("out", x.days(1), 1);

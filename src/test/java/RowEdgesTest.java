@@ -194,6 +194,16 @@ public final class RowEdgesTest extends Edges {
         return x;
     }
 
+    void promise18_byTheHourOfNow() {
+        LastName x = ruled(town(1, 0, 1, 0), "bars hour>5 and in=1;");
+        x.row(0, 0);
+        x.row(0, 0);
+        x.hour(6);
+        c.due("in at 6", x.judge(), 1);
+        x.hour(5);
+        c.due("in at 5", x.judge(), -1);
+    }
+
     void promise18_whatIsBarredCantBe() {
         LastName x = ruled(town(2, 0, 1, 0), "bars size>0 and in=0;");
         x.row(0, 0);
@@ -210,6 +220,30 @@ public final class RowEdgesTest extends Edges {
         c.due("behind it he is outside", x.then(0), -1);
         x.go(0, 0);
         c.due("from now on he is inside", x.then(0), 0);
+    }
+
+    /** The NAMES of 0, 1 and 2 hang at the GATE 0, the oldest first, and 3 is OUTSIDE. */
+    private static LastName threeHang() {
+        LastName x = town(3, 1, 1, 1);
+        for (int who = 0; who < 3; who++) {
+            x.go(who, 0);
+        }
+        return x;
+    }
+
+    void promise19_theyTakeByTheText() {
+        LastName x = threeHang();
+        x.row(3, 0);
+        x.row(1, 0);
+        c.due("3: the latest", x.then(3), 2);
+        c.due("1: the next", x.then(1), 1);
+        ruled(x, "take 0-place;");
+        c.due("3: the oldest", x.then(3), 0);
+        c.due("1: the next", x.then(1), 1);
+        ruled(x, "take own;");
+        c.due("1: his own", x.then(1), 1);
+        c.due("3: the latest, as none is his", x.then(3), 2);
+        c.due("nobody has come in", x.about(9), 0);
     }
 
     void promise19_ofAnEmptyRowItIsAsNow() {
@@ -280,6 +314,22 @@ public final class RowEdgesTest extends Edges {
             x.row(1, 0);
         }
         return x;
+    }
+
+    void promise20_withoutLotByTheTextByLotWithoutIt() {
+        LastName x = threeHang();
+        x.row(3, 0);
+        c.due("the latest", x.chance(3, 2, 0), 1);
+        ruled(x, "take 0-place;");
+        c.due("the oldest", x.chance(3, 0, 0), 1);
+        c.due("for sure", x.chance(3, 0, 1), 1);
+        c.due("the latest not", x.chance(3, 2, 0), 0);
+        LastName y = ruled(town(2, 1, 1, 1), "take 0-place;");
+        y.row(0, 1);
+        y.row(1, 1);
+        y.row(2, 1);
+        c.due("by lot the oldest", y.chance(2, 0, 1), 2);
+        c.due("by lot the latest", y.chance(2, 1, 1), 2);
     }
 
     void promise20_sixAtGatesOfLotAreTheMost() {

@@ -100,6 +100,38 @@ public final class SearchEdgesTest extends Edges {
         keptOfEach("b", SearchEdgesTest::four, beside(0, 2), (x, b) -> x.fewest(1, 1, b, 15, -1), -1);
     }
 
+    void promise25_ofGoal1TheNamesThatTheyHaveNow() {
+        LastName x = town(2, 1, 1, 0);
+        x.go(0, 0);
+        x.go(2, 0);
+        goings(x, 1, 1, 2, 7, 10, 20, 10, 20);
+        goings(x, 1, 2, 1, 7, 10, 20, 10, 20);
+        c.due("with 0 too", x.third(1, 2), 0);
+        c.due("0 is outside now", x.fewest(1, 0, 1, 7, -1), -1);
+    }
+
+    /** The NAMES of 0, 1 and 2 hang at the GATE 0, the oldest first, and 3 is OUTSIDE. */
+    private static LastName threeHang() {
+        LastName x = four();
+        for (int who = 0; who < 3; who++) {
+            x.go(who, 0);
+        }
+        return x;
+    }
+
+    void promise25_theyTakeByTheText() {
+        LastName x = threeHang();
+        goings(x, 0, 3, 2, 15, 30);
+        ruled(x, "take 0-place;");
+        goings(x, 0, 3, 2, 15, 0, 10, 30);
+        goings(x, 0, 3, 0, 15, 30);
+        ruled(x, "take own;bars hour=4 and who=3;");
+        goings(x, 0, 3, 1, 15, 20, 30);
+        goings(x, 2, 0, 0, 15, 0, 10, 20);
+        x.hour(4);
+        c.due("3 can't at that hour", x.fewest(0, 3, 1, 15, -1), -1);
+    }
+
     void promise25_ofGoal2AAndBDontMatter() {
         for (int any : new int[] {-2, -1, 0, 3, 4, 8, Integer.MIN_VALUE, Integer.MAX_VALUE}) {
             LastName x = four();
@@ -320,6 +352,17 @@ public final class SearchEdgesTest extends Edges {
         c.due("outside", x.left(0, 2, -1), 0);
     }
 
+    void promise27_theyTakeByTheText() {
+        LastName x = threeHang();
+        c.due("2 for who is first", x.left(0, 3, 2), 6);
+        c.due("or for 2 himself", x.left(0, 2, 2), 6);
+        ruled(x, "take own;");
+        c.due("if he comes before 2", x.left(0, 3, 2), 12);
+        c.due("else 2 has his own", x.left(0, 2, 2), 12);
+        ruled(x, "take own;bars who=3 and hour<1;");
+        c.due("without 3 all have their own", x.left(0, 2, 2), 24);
+    }
+
     void promise27_whoCantIsLeftOut() {
         LastName x = town(1, 3, 1, 0);
         x.go(0, 0);
@@ -386,6 +429,17 @@ public final class SearchEdgesTest extends Edges {
         kept("without names", () -> town(2, 1, 2, 0), x -> x.thief(2, 4), -1);
         kept("without gates", () -> town(2, 1, 0, 0), x -> x.thief(2, 4), -1);
         kept("barred", () -> ruled(guilty(), "bars who=4;"), x -> x.thief(4, 4), -1);
+    }
+
+    void promise28_heTakesByTheText() {
+        LastName x = guilty();
+        c.due("the latest", x.thief(4, 1), 40);
+        ruled(x, "take 0-place;");
+        c.due("the oldest", x.thief(4, 1), 20);
+        ruled(x, "take (place-1)*(1-place);bars hour=9;");
+        c.due("the middle one", x.thief(4, 1), 30);
+        x.hour(9);
+        c.due("not at that hour", x.thief(4, 1), -1);
     }
 
     void promise28_aNameThatOwesNothingIsTheLeast() {

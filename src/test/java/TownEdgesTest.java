@@ -70,6 +70,31 @@ public final class TownEdgesTest extends Edges {
         c.due("call 512", x.of(0, 2), 509);
     }
 
+    /** What is told to one object doesn't come to another one that is used by turns with it. */
+    void promise1_twoObjectsAreApart() {
+        LastName x = new LastName();
+        LastName y = new LastName();
+        for (int i = 0; i < 3; i++) {
+            c.due("person", x.person(true), i);
+            c.due("gate", y.gate(true), i);
+        }
+        c.due("text", Check.read(x, "fee 9;"), 0);
+        x.by(0);
+        x.gate(false);
+        x.seed(4);
+        x.go(0, 0);
+        x.image();
+        c.due("nobody came to the other", y.about(0), 0);
+        c.due("nor a gate to this", x.about(1), 1);
+        c.due("nor a text to the other", y.by(0), false);
+        c.due("nor a draw", y.about(10), 5);
+        c.due("its image is that of a new one", y.back(), 0);
+        c.due("and this one has its own", x.back(), 3);
+        LastName[] all = {busy(), busy()};
+        full();
+        c.same("two like ones", View.of(all[0]), View.of(all[1]));
+    }
+
     void promise2_theEighthIs7AndTheNinthNone() {
         for (boolean inside : new boolean[] {true, false}) {
             LastName x = new LastName();
