@@ -48,6 +48,8 @@ public final class ReadmeTest {
                 x = new LastName();
             } else if (inside && !line.isEmpty()) {
                 make(line);
+            } else if (line.startsWith("    take ")) {
+                c.due("a text: " + line.trim(), Check.read(new LastName(), line.trim()), 0);
             }
         }
     }
